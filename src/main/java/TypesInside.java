@@ -1406,7 +1406,7 @@ public final class TypesInside {
 
         /**
          * Works all out, each open ( on a level of its own, into the total of level 0; answers the place of the first
-         * * by which a size would be too great, or -1. The tape's form is known to be right.
+         * star by which a size would be too great, or -1. The tape's form is known to be right.
          */
         int wrongProduct(Counts counts) {
             int level = 0;

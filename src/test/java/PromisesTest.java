@@ -223,6 +223,7 @@ public final class PromisesTest {
     private static void value() {
         TypesInside x = new TypesInside();
         due("all of 11111 at 2", x.value(11111, 0, 2), 374);
+        due("all of 0 at 3", x.value(0, 0, 3), 1);
         due("all of 21 at 7", x.value(21, 0, 7), 18);
         due("automorphisms of 11111 at 2", x.value(11111, 1, 2), 9999360);
         due("automorphisms of 11 at 5", x.value(11, 1, 5), 480);
@@ -440,6 +441,7 @@ public final class PromisesTest {
         due("of type 1, cotype 3", x.listed(3, 1), 2);
         due("of type 31, cotype 0", x.listed(0, 31), 1);
         due("of type 4", x.listed(4, -1), 0);
+        due("of type 0, cotype 31", x.listed(31, 0), 1);
         due("of sizes apart", x.listed(1, 1), 0);
         for (int type : NO_TYPES) {
             due("listed m", x.listed(type, -1), -1);
@@ -601,6 +603,9 @@ public final class PromisesTest {
         dueRead("[5]*[1]+[12]", -2008);
         dueRead("[5]*[1]", -3003);
         dueRead("[5]*[]*[1]", -3006);
+        dueRead("[11111]*[1]", -3007);
+        dueRead("[1]*[11111]", -3003);
+        dueRead("[4]*((1)*[2])", -3003);
         dueRead("[1]*([5]*[1])", -3008);
         dueRead("[1]*([3]*[2])*[1]*[1]", -3003);
         dueRead("[1]+[3]*[2]*[1]", -3011);
@@ -621,6 +626,9 @@ public final class PromisesTest {
         due("a ( ) and its sign", read(x, "3-2*([1]-5)"), 2);
         dueTerm(x, 0, 0, 13);
         dueTerm(x, 1, 1, -2);
+        due("five figures", read(x, "[11111]+[]"), 2);
+        dueTerm(x, 0, 0, 1);
+        dueTerm(x, 1, 11111, 1);
         due("all chains", read(x, "[1]*[1]*[1]*[1]*[1]"), 7);
         dueTerm(x, 0, 5, 1);
         due("terms by number", x.term(6, 0), 11111);
@@ -783,6 +791,11 @@ public final class PromisesTest {
         x = rows();
         due("back in the same", x.move(0, 1, 0, 0, 4), 4);
         dueRow(x, 0, 2, -5, 21, 3, 3);
+        x.shelf(2, 1, 1);
+        x.put(0, 2, 0);
+        due("0 is cyclic", x.move(0, 2, 2, 0, 1), 0);
+        x.put(0, 2, 21);
+        x.shelf(2, -1, 0);
         due("none", x.move(0, 5, 1, 4, 0), 0);
         due("none, beyond", x.move(0, 6, 1, 4, 0), -12);
         due("none, beyond the other", x.move(0, 5, 1, 5, 0), -12);
@@ -826,6 +839,9 @@ public final class PromisesTest {
         dueRow(x, 2, 21, 22, 211);
         x.shelf(3, 3, 0);
         due("no room", x.all(3, 5), 0);
+        x.shelf(3, 3, 2);
+        due("in 0", x.all(3, 0), 1);
+        dueRow(x, 3, 0, -5);
         x.shelf(3, -1, 0);
         for (int no : new int[] {-1, 4, Integer.MIN_VALUE, Integer.MAX_VALUE}) {
             due("no shelf", x.all(no, 1), -1);
