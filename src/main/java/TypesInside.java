@@ -615,7 +615,9 @@ public final class TypesInside {
         }
 
         static void writeZero(long[] row) {
-            Arrays.fill(row, 0L);
+            for (int k = 0; k < row.length; k++) {
+                row[k] = 0L;
+            }
         }
 
         static void writeOne(long[] row) {
