@@ -33,6 +33,16 @@ public final class GroupEdgesTest {
             EDGES.due("list -1", x.list(-1), 1);
             EDGES.due("list 0", x.list(0), 1);
         }
+        EDGES.sentence("THE GROUP is of a TYPE, for a PRIME: the same TYPE by another PRIME, another TYPE by the same one");
+        TypesInside y = new TypesInside();
+        int[][] turns = {{11, 2, 4, 5}, {11, 3, 9, 6}, {11, 5, 25, 8}, {2, 5, 25, 3}, {2, 3, 9, 3}, {2, 2, 4, 3},
+            {2, 2, 4, 3}, {0, 2, 1, 1}, {0, 3, 1, 1}, {1, 3, 3, 2}, {1, 7, 7, 2}};
+        for (int[] t : turns) {
+            EDGES.due("group " + t[0] + " " + t[1], y.group(t[0], t[1]), t[2]);
+            EDGES.dueGroup(y, t[0], t[1], t[2]);
+            EDGES.due("list -1 of " + t[0] + " at " + t[1], y.list(-1), t[3]);
+            EDGES.due("all of it", y.list(t[3] - 1), (1L << t[2]) - 1);
+        }
         EDGES.sentence("group: FULL: more than 32");
         int[][] full = {{4, 3}, {22, 3}, {1111, 3}, {5, 3}, {11111, 3}, {3, 5}, {111, 5}, {4, 5}, {221, 5}, {2, 7},
             {11, 7}, {21, 7}, {31, 7}, {11111, 7}};
