@@ -152,6 +152,8 @@ public final class ShareEdgesTest {
         EDGES.due("mean of TYPE 0 at 7", with(0, 7).mean(), 1065353216);
         EDGES.stays("mean", bits(27f / 8f), x -> x.mean());
         EDGES.sentence("MEAN: at last sum over how many SUBGROUPS there are (as a float)");
+        EDGES.due("mean of 1 at 3", with(1, 3).mean(), 0x40000000);
+        EDGES.due("mean of 1 at 5", with(1, 5).mean(), 0x40400000);
         EDGES.due("mean of 2", with(2, 2).mean(), bits(7f / 3f));
         EDGES.due("mean of 5", with(5, 2).mean(), bits(63f / 6f));
         EDGES.due("mean of 11 at 3", with(11, 3).mean(), bits(22f / 6f));
