@@ -75,7 +75,7 @@ public final class TypesInside {
         return Types.lies(small, large) ? 1 : 0;
     }
 
-    // ---- polynomials
+    // ---- polynomials: part -1 DEGREE, part i (0 .. 30) COEFFICIENT i
 
     public long choices(int a, int b, int part) {
         if (a < 0 || a > Types.TOP || b < 0 || b > Types.TOP || !Poly.isPart(part)) {
@@ -1168,16 +1168,17 @@ public final class TypesInside {
     private static final class Bits {
         // No number that is asked for is so small or so great as to need more halvings.
         private static final int STEPS = 1022;
+        private static final long SIGN = 1L << 63;
 
+        /** Of a float that is 0 or more, as shares and means are. */
         static int ofFloat(float x) {
-            if (x == 0f) {
+            if (x <= 0f) {
                 return 0;
             }
-            double size = x < 0f ? -(double) x : (double) x;
+            double size = (double) x;
             int exponent = exponentOf(size);
             double fraction = scaled(size, exponent) - 1.0;
-            int bits = ((exponent + 127) << 23) | (int) (fraction * 8388608.0);
-            return x < 0f ? bits | Integer.MIN_VALUE : bits;
+            return ((exponent + 127) << 23) | (int) (fraction * 8388608.0);
         }
 
         static long ofDouble(double x) {
@@ -1188,7 +1189,7 @@ public final class TypesInside {
             int exponent = exponentOf(size);
             double fraction = scaled(size, exponent) - 1.0;
             long bits = ((long) (exponent + 1023) << 52) | (long) (fraction * 4503599627370496.0);
-            return x < 0.0 ? bits | Long.MIN_VALUE : bits;
+            return x < 0.0 ? bits | SIGN : bits;
         }
 
         private static int exponentOf(double size) {

@@ -141,8 +141,9 @@ public final class RulesTest {
             used.add(library.group());
         }
         used.removeAll(Set.of("Arrays.fill", "System.arraycopy", "Math.min", "Math.max", "Math.floorMod",
-                "Long.bitCount", "Long.MIN_VALUE", "Integer.MIN_VALUE"));
+                "Long.bitCount", "Long.MIN_VALUE"));
         due("other library", used.toString(), "[]");
+        due("a library's constant beside NO's own", code.split("_VALUE").length, 2);
         methodLengths(code);
     }
 
